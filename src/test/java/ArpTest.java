@@ -70,6 +70,12 @@ public final class ArpTest {
     for (int i = 3; i < 16; i++) {
       Kit.due("3: others stay", x.cached(P + i), true);
     }
+    kit = Kit.booted();
+    for (int i = 0; i < 17; i++) {
+      kit.arrive(Kit.tell(P + i), 5);
+    }
+    Kit.due("3: of all at one time the first goes", kit.host.cached(P), false);
+    Kit.due("3: and not the second", kit.host.cached(P + 1), true);
   }
 
   private static void expires() {

@@ -41,7 +41,8 @@ public final class BootTest {
     Kit.due("5: outside of 30 bits", x.boot(0x01000002, 30, 0x01000004, 0x0200, 1), -2);
     Kit.due("5: first byte 128", x.boot(0x80000002, 24, 0x80000001, 0x0200, 1), 2);
     Kit.due("5: only the lowest bytes of high", x.boot(Kit.IP, 24, Kit.GATE, 0x01010201, -1), 2);
-    kit.arrive(Kit.arp(Kit.ALL, 1, Kit.macOf(9), 0x0A000009, new byte[6], Kit.IP), 0);
+    kit.put(Kit.ask(0x0A000009));
+    x.arrive(0);
     Kit.due("5: the address", Kit.hex(Kit.slice(kit.frame(0), 6, 12)), "0201ffffffff");
   }
 
@@ -59,6 +60,7 @@ public final class BootTest {
     Kit.due("5: a name twice", boot(Kit.image("/a", "a", "/b", "b", "/a", "c")), -3);
     Kit.due("5: a name without /", boot(Kit.image("a", "a")), -3);
     Kit.due("5: a blank in a name", boot(Kit.image("/a b", "a")), -3);
+    Kit.due("5: a blank right behind /", boot(Kit.image("/ ", "a")), -3);
     Kit.due("5: 127 in a name", boot(Kit.image("/a\u007f", "a")), -3);
     Kit.due("5: 126 and 33 in a name", boot(Kit.image("/a~!", "a")), 1);
     Kit.due("5: a byte behind a name", boot(Kit.image("/a\0b", "a")), -3);
@@ -115,6 +117,7 @@ public final class BootTest {
     Kit.due("5: no frame", x.length(0), -1);
     Kit.due("5: no connection", x.state(0), 0);
     Kit.due("5: no entry", x.cached(0x0A000009), false);
+    Kit.due("5: nor one for 0", x.cached(0), false);
     Kit.due("5: nothing waits", x.waiting(), 0);
     Kit.due("5: the tray stays", x.end(20), 20);
     for (int i = 0; i < 8; i++) {
@@ -125,5 +128,10 @@ public final class BootTest {
     new Peer(kit, 0x0A000009, 5000).open(600001);
     Kit.due("5: the first connection again", x.look(0, 2), (64000L + 250L * 600001 + 1) & 0xFFFFFFFFL);
     Kit.due("5: the first identification again", Kit.two(kit.frame(0), 18), 1);
+    byte[] echo = Kit.echo(1, "abcdefgh");
+    kit.arrive(Kit.packet(0x0A000009, 3, 0x2000, 1, Kit.slice(echo, 0, 8)), 600010);
+    x.boot(Kit.IP, 24, Kit.GATE, 0x0200, 1);
+    kit.arrive(Kit.packet(0x0A000009, 3, 1, 1, Kit.slice(echo, 8, 16)), 100);
+    Kit.due("5: no datagram in the making", x.counted(1), 0);
   }
 }

@@ -58,6 +58,11 @@ public final class DamageTest {
     Kit.due("18: a FIN in flight", x.damage(0, 'S'), false);
     peer.ackMore(1007, 1);
     Kit.due("18: gone", x.damage(0, 'S'), true);
+    peer = new Peer(kit, P, 5001).open(1010);
+    peer.window = 0;
+    peer.fin(1011);
+    Kit.due("13: CLOSE WAIT", peer.state(), 7);
+    Kit.due("18: a FIN to send", x.damage(0, 'S'), false);
   }
 
   private static String ask(Kit kit, int port, String request) {

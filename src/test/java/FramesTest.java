@@ -87,18 +87,23 @@ public final class FramesTest {
   private static void dropped() {
     Kit kit = Kit.booted();
     byte[] ask = Kit.ask(0x0A000009);
+    Kit.due("6: a byte alone", kit.arrive(new byte[1], 1), 0);
     Kit.due("2: 13 bytes", kit.arrive(Kit.slice(ask, 0, 13), 1), 0);
     Kit.due("2: 14 bytes", kit.arrive(Kit.slice(ask, 0, 14), 1), 0);
     Kit.due("3: 27 bytes of ARP", kit.arrive(Kit.slice(ask, 0, 41), 1), 0);
     byte[] other = ask.clone();
     other[5] = 0;
     Kit.due("2: to another address", kit.arrive(other, 1), 0);
+    other = Kit.join(Kit.hex("020000000002"), Kit.slice(ask, 6, 42));
+    Kit.due("2: to an address with our high bytes", kit.arrive(other, 1), 0);
+    other = Kit.join(Kit.hex("040000000001"), Kit.slice(ask, 6, 42));
+    Kit.due("2: to an address with our low bytes", kit.arrive(other, 1), 0);
     byte[] kind = ask.clone();
     kind[12] = (byte) 0x86;
     Kit.due("2: of another kind", kit.arrive(kind, 1), 0);
     Kit.due("15: nothing learnt", kit.host.cached(0x0A000009), false);
     byte[] ours = Kit.join(Kit.MAC, Kit.slice(ask, 6, 42));
     Kit.due("2: to our address", kit.arrive(ours, 1), 1);
-    Kit.due("17: all were counted", kit.host.counted(0), 6);
+    Kit.due("17: all were counted", kit.host.counted(0), 9);
   }
 }

@@ -10,6 +10,8 @@ public final class IpTest {
     inTheMaking();
     lateFragments();
     greatDatagrams();
+    fragmentsAlone();
+    sums();
     Kit.finish();
   }
 
@@ -140,6 +142,7 @@ public final class IpTest {
     Kit.due("4: begun anew", kit.arrive(piece(2, whole, 8, 24, false), 7), 1);
     kit.arrive(Kit.packet(P, 3, 0x2002, 1, new byte[16]), 8);
     Kit.due("4: an end before what is there", kit.arrive(piece(3, whole, 8, 24, false), 9), 0);
+    Kit.due("17: nothing is whole by that", kit.host.counted(1), 2);
     Kit.due("4: dropped all", kit.arrive(piece(3, whole, 0, 8, true), 10), 0);
     Kit.due("4: begun anew", kit.arrive(piece(3, whole, 8, 24, false), 11), 1);
     kit.arrive(piece(4, whole, 16, 24, false), 12);
@@ -176,6 +179,46 @@ public final class IpTest {
     Kit.due("4: too late", kit.arrive(piece(2, whole, 8, 24, false), 35000), 0);
     Kit.due("4: the other one in time", kit.arrive(piece(3, whole, 8, 24, false), 35000), 1);
     Kit.due("4: what was late began anew", kit.arrive(piece(2, whole, 0, 8, true), 49999), 1);
+    kit.arrive(piece(4, whole, 0, 8, true), 50000);
+    kit.arrive(piece(4, whole, 8, 16, true), 55000);
+    Kit.due("4: one alone is late too", kit.arrive(piece(4, whole, 16, 24, false), 65000), 0);
+    kit.host.pass(100000);
+    kit.arrive(piece(5, whole, 0, 8, true), 100000);
+    kit.arrive(Kit.packet(P, 1, whole), 114500);
+    Kit.due("9: what is due behind it happens too", kit.host.pass(116600), 2);
+    Kit.due("12: the latest", kit.host.time(0), 116500);
+  }
+
+  /** Echoes that would be right by themselves, in fragments that are dropped. */
+  private static void fragmentsAlone() {
+    Kit kit = withPeer();
+    byte[] twelve = Kit.echo(7, "abcd");
+    byte[] sixteen = Kit.echo(7, "abcdefgh");
+    Kit.due("4: 12 bytes with more to come", kit.arrive(Kit.packet(P, 1, 0x2000, 1, twelve), 1), 0);
+    Kit.due("4: were dropped", kit.arrive(Kit.packet(P, 1, 1, 1, Kit.slice(twelve, 8, 12)), 1), 0);
+    Kit.due("4: too long an end", kit.arrive(Kit.packet(P, 2, 0x0200, 1, sixteen), 1), 0);
+    for (int i = 3; i < 6; i++) {
+      Kit.due("4: in the making", kit.arrive(Kit.packet(P, i, 0x2000, 1, sixteen), 1), 0);
+    }
+    Kit.due("4: a fifth", kit.arrive(Kit.packet(P, 6, 0x2000, 1, sixteen), 1), 0);
+    Kit.due("4: an end", kit.arrive(Kit.packet(P, 3, 3, 1, sixteen), 1), 0);
+    Kit.due("4: another end", kit.arrive(Kit.packet(P, 3, 4, 1, sixteen), 1), 0);
+    Kit.due("17: none put together", kit.host.counted(1), 0);
+  }
+
+  private static void sums() {
+    Kit kit = withPeer();
+    for (int i = 0; i < 40; i++) {
+      kit.arrive(Kit.packet(P, 1, Kit.echo(0xFFF0 + i, "\u00ff".repeat(37 * i) + (char) (7 * i))), 1);
+      Kit.due("4: the sum of " + i, Kit.faultOf(kit.frame(0)), "");
+    }
+    byte[] whole = Kit.echo(7, "0123456789".repeat(5));
+    byte[] other = whole.clone();
+    java.util.Arrays.fill(other, 8, 40, (byte) 'x');
+    kit.arrive(piece(5, whole, 0, 40, true), 2);
+    kit.arrive(piece(5, other, 8, 48, true), 3);
+    Kit.due("4: all that is there stays", kit.arrive(piece(5, whole, 48, 58, false), 4), 1);
+    Kit.due("4: as it was", Kit.latin(Kit.slice(kit.frame(0), 42, 92)), "0123456789".repeat(5));
   }
 
   private static void greatDatagrams() {

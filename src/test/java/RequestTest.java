@@ -17,6 +17,7 @@ public final class RequestTest {
     lines();
     bodies();
     pipelines();
+    forgotten();
     tooLarge();
     tellingTheWindow();
     Kit.finish();
@@ -25,7 +26,7 @@ public final class RequestTest {
   private static byte[] image() {
     return Kit.image("/index.html", "<h1>hi</h1>", "/a.txt", "some text", "/d/index.html", "D", "/x.css", "c",
         "/x.js", "j", "/x.png", "p", "/x.json", "o", "/none", "", "/p%q?r", "odd", N47.substring(0, 47), "L",
-        "/~!", "T");
+        "/~!", "T", "/a-txt", "o", "/ten", "1234567890", "/hundred", "x".repeat(100));
   }
 
   private static String mark(String body) {
@@ -96,6 +97,9 @@ public final class RequestTest {
     Kit.due("8: .css", get("/x.css", ""), ok("text/css", "c", ""));
     Kit.due("8: .js", get("/x.js", ""), ok("text/javascript", "j", ""));
     Kit.due("8: .png", get("/x.png", ""), ok("image/png", "p", ""));
+    Kit.due("8: -txt", get("/a-txt", ""), ok("application/octet-stream", "o", ""));
+    Kit.due("8: ten", get("/ten", ""), ok("application/octet-stream", "1234567890", ""));
+    Kit.due("8: hundred", get("/hundred", ""), ok("application/octet-stream", "x".repeat(100), ""));
     Kit.due("8: .json", get("/x.json", ""), ok("application/octet-stream", "o", ""));
   }
 
@@ -128,6 +132,9 @@ public final class RequestTest {
     line("G3T /a.txt HTTP/1.1", 400);
     line(" /a.txt HTTP/1.1", 400);
     line("GETT /a.txt HTTP/1.1", 405);
+    line("XET /a.txt HTTP/1.1", 405);
+    line("AZ /a.txt HTTP/1.1", 405);
+    line("G /a.txt HTTP/1.1", 405);
     line("GE /a.txt HTTP/1.1", 405);
     line("ABCDEFGHIJKLMNOP /a.txt HTTP/1.1", 405);
     line("ABCDEFGHIJKLMNOPQ /a.txt HTTP/1.1", 400);
@@ -165,6 +172,11 @@ public final class RequestTest {
     field("X: a\u001fb", 400);
     field("X: a\rb", 400);
     field("X: a\r", 400);
+    field("z: y", 200);
+    field("Xost: again", 200);
+    field("Hosx: again", 200);
+    field("Content-Length: 1:", 400);
+    field("Content-Length: 1/", 400);
     field("Host: again", 400);
     field("hOST: again", 400);
     field("Content-Length: 0", 200);
@@ -217,6 +229,11 @@ public final class RequestTest {
     path("/p%25q%3fr?x", 200);
     path("/p%q?r", 400);
     path("/%7e%21", 200);
+    path("/~!", 200);
+    path("/%70%25q%3Fr", 200);
+    path("/%69ndex.html", 200);
+    path("/x.%6as", 200);
+    path("/x.%6As", 200);
     path("/%20", 400);
     path("/%7f", 400);
     path("/%7F", 400);
@@ -245,6 +262,9 @@ public final class RequestTest {
     field("If-None-Match: *", 304);
     field("If-None-Match: " + bare, 200);
     field("If-None-Match: \"" + bare.toUpperCase() + "\"", bare.equals(bare.toUpperCase()) ? 304 : 200);
+    field("If-None-Match: \"" + (bare.charAt(0) == '0' ? '1' : '0') + bare.substring(1) + "\"", 200);
+    field("If-None-Match: x" + bare + "\"", 200);
+    field("If-None-Match: \"" + bare + "x", 200);
     field("If-None-Match: W/" + mark, 200);
     field("If-None-Match: " + mark + ", \"x\"", 200);
     field("If-None-Match: \"00000000\"", 200);
@@ -311,6 +331,7 @@ public final class RequestTest {
     Kit.due("8: lines that end with 10 alone", answer("GET /a.txt HTTP/1.1\nHost: h\n\n"), want);
     Kit.due("8: both", answer("GET /a.txt HTTP/1.1\r\nHost: h\n\r\n"), want);
     Kit.due("8: empty lines before", answer("\r\n\n\r\nGET /a.txt HTTP/1.1\r\nHost: h\r\n\r\n"), want);
+    Kit.due("8: one empty line before", answer("\nGET /a.txt HTTP/1.1\r\nHost: h\r\n\r\n"), want);
     Kit.due("8: a 13 alone before", number(answer("\r\r\nGET /a.txt HTTP/1.1\r\nHost: h\r\n\r\n")), "400");
     Kit kit = Kit.booted(image());
     Peer peer = opened(kit);
@@ -387,6 +408,40 @@ public final class RequestTest {
     peer.ackMore(71, peer.data(0).length() + 1);
     Kit.due("8: nothing is answered when it is closing down", kit.host.counted(4), 4);
     Kit.due("13: FIN WAIT 2", peer.state(), 4);
+  }
+
+  /** What one request said is not said by the next one. */
+  private static void forgotten() {
+    Kit kit = Kit.booted(image());
+    Peer peer = opened(kit);
+    peer.send(10, "HEAD /a.txt HTTP/1.0\r\nConnection: close\r\nContent-Length: 5\r\nIf-None-Match: *\r\n\r\n");
+    Kit.due("8: closing down", peer.state(), 3);
+    peer = opened(kit);
+    peer.send(20, "GET /a.txt HTTP/1.1\r\nHost: h\r\n\r\n1234");
+    Kit.due("8: nothing of that", peer.data(0), ok("text/plain", "some text", ""));
+    Kit.due("7: nothing is left out", peer.look(11), 4);
+    peer = opened(kit);
+    peer.send(30, "GET /a.txt HTTP/1.0\r\nConnection: keep-alive\r\n\r\n");
+    Kit.due("8: persistent", peer.state(), 2);
+    peer = opened(kit);
+    peer.send(40, "GET /a.txt HTTP/1.0\r\n\r\n");
+    Kit.due("8: not persistent", peer.state(), 3);
+    peer = opened(kit);
+    peer.send(50, "HEAD /a.txt HTTP/1.0\r\n\r\n");
+    peer = opened(kit);
+    for (int i = 0; i < 4; i++) {
+      peer.send(60, "x".repeat(1024));
+    }
+    Kit.due("8: 431 is as for GET", peer.data(0), fault("431 Request Header Fields Too Large", "Connection: close\r\n"));
+    peer = opened(kit);
+    peer.send(70, "HEAD /a.txt HTTP/1.0\r\n\r\n");
+    peer = opened(kit);
+    peer.send(80, "x\r\n\r\n");
+    Kit.due("8: a faulty line too", peer.data(0), fault("400 Bad Request", "Connection: close\r\n"));
+    peer = opened(kit);
+    peer.send(90, "PUT /a.txt HTTP/1.1\r\nHost: h\r\nContent-Length: 3\r\n\r\n12");
+    peer.send(91, "3");
+    Kit.due("8: a byte alone is left out", peer.look(11), 0);
   }
 
   private static void tooLarge() {

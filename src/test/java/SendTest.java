@@ -11,6 +11,7 @@ public final class SendTest {
     slowStart();
     timing();
     duplicates();
+    recoveryEnds();
     notDuplicates();
     runsOut();
     givesUp();
@@ -19,6 +20,9 @@ public final class SendTest {
     probesAnswered();
     finFits();
     finAgain();
+    quietWithZeroWindow();
+    greatSegments();
+    steadyTiming();
     sameTime();
     expiredWhileWaiting();
     Kit.finish();
@@ -154,6 +158,25 @@ public final class SendTest {
     }
     Kit.due("6: SSTHRESH is 2 MSS at least", peer.look(8), 128);
     Kit.due("14: CWND", peer.look(7), 128 + 192);
+  }
+
+  /** More in flight than four segments, and a timer that runs out in recovery. */
+  private static void recoveryEnds() {
+    Peer peer = opened(500);
+    peer.send(10, GET);
+    peer.ackMore(20, 500);
+    peer.ackMore(20, 500);
+    Kit.due("6: in flight", peer.look(4) - peer.look(2), 3000);
+    for (int i = 0; i < 3; i++) {
+      peer.ackMore(30, 0);
+    }
+    Kit.due("6: half of that", peer.look(8), 1500);
+    Kit.due("14: CWND", peer.look(7), 3000);
+    peer.host.pass(1020);
+    Kit.due("14: CWND", peer.look(7), 500);
+    Kit.due("14: SSTHRESH", peer.look(8), 1500);
+    peer.ackMore(1100, 300);
+    Kit.due("6: no recovery any more", peer.look(7), 800);
   }
 
   private static void notDuplicates() {
@@ -302,6 +325,55 @@ public final class SendTest {
     Kit.due("6: which stays as it was", peer.host.pass(1009), 0);
     Kit.due("6: and runs out", peer.host.pass(1010), 1);
     Kit.due("6: all by the rule then", peer.data(0).length(), 500);
+  }
+
+  private static void quietWithZeroWindow() {
+    Peer peer = opened(500);
+    peer.window = 0;
+    peer.ackMore(10, 0);
+    Kit.due("6: nothing to send, no timer", peer.host.pass(5000), 0);
+    peer.send(5010, GET);
+    peer.ackMore(5500, 0);
+    Kit.due("6: a timer that is set stays", peer.host.pass(6009), 0);
+    Kit.due("6: runs out", peer.host.pass(6010), 1);
+    Kit.due("6: one byte", peer.data(0), "H");
+  }
+
+  private static void greatSegments() {
+    Peer peer = opened(1460);
+    Kit.due("6: three of 1460", peer.send(10, GET), 3);
+    Kit.due("10: its length", peer.host.length(0), 1514);
+    Kit.due("6: the last", peer.data(0), body().substring(2 * 1460 - 99, 3 * 1460 - 99));
+    Kit.due("6: the first", peer.data(2).substring(99), body().substring(0, 1460 - 99));
+    byte[] name = java.util.Arrays.copyOf(Kit.latin("/first"), 48);
+    byte[] head = Kit.join(Kit.latin("STOR"), Kit.two(1), Kit.two(0));
+    byte[] check = Kit.four(Kit.check(Kit.latin("STOR")));
+    Kit kit = Kit.booted(Kit.sealed(Kit.join(head, name, Kit.four(0), Kit.four(4), check, Kit.four(0))));
+    peer = new Peer(kit, P, 5000).open(0);
+    peer.send(10, GET.replace("/b", "/first"));
+    String data = peer.data(0);
+    Kit.due("8: a file at the image's beginning", data.substring(data.length() - 6), "\r\nSTOR");
+  }
+
+  /** With R always 995 VAR goes to 2 and below, where 10 is the greater one. */
+  private static void steadyTiming() {
+    Kit kit = kit();
+    kit.arrive(Kit.tell(P), 0);
+    Peer peer = new Peer(kit, P, 5000);
+    peer.syn(0, 1000, new byte[0]);
+    int time = 995;
+    peer.raw(time, Peer.ACK, peer.seq, peer.ack, "");
+    int var = 497;
+    for (int i = 0; i < 22; i++) {
+      kit.arrive(Kit.tell(P), time);
+      peer.send(time, "HEAD /s HTTP/1.1\r\nHost: h\r\n\r\n");
+      int n = peer.data(0).length();
+      time += 995;
+      peer.ackMore(time, n);
+      var = 3 * var / 4;
+      Kit.due("6: VAR " + var, peer.look(9), 995 + Math.max(10, 4 * var));
+    }
+    Kit.due("6: at last", peer.look(9), 1005);
   }
 
   private static void probesAnswered() {

@@ -94,6 +94,14 @@ public final class TcpTest {
     mss("01010102", 536, 2144);
     mss("01020403", 536, 2144);
     mss("0a08010101010101", 536, 2144);
+    mss("04020101020403e8", 1000, 4000);
+    Kit kit = withPeer();
+    byte[] data = Kit.hex("020403e8");
+    kit.arrive(Kit.packet(P, 6, Kit.tcp(P, fields(80, 1, 0, Peer.SYN), Kit.hex("01010101"), data)), 1);
+    Kit.due("5: data are no options", kit.host.look(0, 10), 536);
+    data = Kit.hex("0403e801");
+    kit.arrive(Kit.packet(P + 1, 6, Kit.tcp(P + 1, fields(80, 1, 0, Peer.SYN), Kit.hex("01010102"), data)), 1);
+    Kit.due("5: nor the length of one", kit.host.look(1, 10), 536);
   }
 
   private static int[] fields(int toPort, int seq, int ack, int flags) {
@@ -279,8 +287,11 @@ public final class TcpTest {
     Kit.due("5: ACK", peer.flags(0), 16);
     Kit.due("5: data here owe nothing", peer.raw(25, Peer.ACK, peer.seq, peer.ack, "abc"), 0);
     Kit.due("14: nor move NEXT", peer.look(5), peer.seq);
+    Kit.due("5: nor does a FIN", peer.raw(26, Peer.ACK | Peer.FIN, peer.seq, peer.ack, ""), 0);
+    Kit.due("13: CLOSING still", kit.host.state(0), 5);
     Kit.due("5: ours acknowledged", peer.ackMore(30, n + 1), 0);
     Kit.due("13: TIME WAIT", kit.host.state(0), 6);
+    peer.raw(50, Peer.ACK, peer.seq, peer.ack, "");
     kit.host.pass(60029);
     Kit.due("13: TIME WAIT still", kit.host.state(0), 6);
     kit.host.pass(60030);
@@ -475,7 +486,8 @@ public final class TcpTest {
     peer.raw(30101, Peer.RST, peer.seq, 0, "");
 
     peer = new Peer(kit, P, 5001).open(40000);
-    peer.send(50000, "GET ");
+    peer.send(50000, "G");
+    peer.raw(60000, Peer.ACK, peer.seq, peer.ack, "");
     Kit.due("6: data put it off", kit.host.pass(79999), 0);
     Kit.due("6: closing down", kit.host.pass(80000), 1);
     peer.raw(80001, Peer.RST, peer.seq, 0, "");

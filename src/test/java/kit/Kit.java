@@ -66,9 +66,15 @@ final class Kit {
     host.end(bytes.length);
   }
 
+  /** Lets a frame arrive, and looks whether all that was sent then is well formed. */
   int arrive(byte[] frame, int time) {
     put(frame);
-    return host.arrive(time);
+    int n = host.arrive(time);
+    for (int i = 0; i < Math.min(n, 32); i++) {
+      String fault = faultOf(frame(i));
+      due("19: a frame sent at " + time + ": " + fault, fault.length(), 0);
+    }
+    return n;
   }
 
   /** The bytes of a frame sent, i counted back. */
