@@ -69,7 +69,7 @@ public final class WebHost {
     wire = new Wire();
     link = new Link(wire);
     intake = new Intake(wire, link);
-    tcp = new Tcp(wire, link, store);
+    tcp = new Tcp(wire, link, store, intake);
     requests = new Requests(store, wire);
     tray = new byte[80];
   }
@@ -145,8 +145,8 @@ public final class WebHost {
       link.takeArp(tray, fed);
     } else if (kind == ICMP) {
       intake.echo();
-    } else if (kind == TCP) {
-      Connection c = tcp.take(intake);
+    } else if (kind == TCP && intake.readSegment()) {
+      Connection c = tcp.take();
       if (c != null) {
         requests.lookAt(c);
         tcp.sendAllDue(c);
@@ -857,18 +857,29 @@ public final class WebHost {
     }
   }
 
-  /** Reads frames down to what their packets carry, and puts fragments together. */
+  /** The frame that is looked at: read down to its packet, put together of fragments, and its segment. */
   private static final class Intake {
     private static final int DROPPED = 0;
     private static final int IN_MAKING_MOST = 4;
     private static final int MAKING_LIFE = 15000;
     private static final int MORE = 0x2000;
     private static final int OFFSET = 0x1FFF;
+    private static final int MSS_MOST = 1460;
+    private static final int MSS_LEAST = 64;
+    private static final int MSS_UNTOLD = 536;
 
     byte[] body;
-    int place;
-    int size;
     int sender;
+    int fromPort;
+    int toPort;
+    int seq;
+    int ack;
+    int flags;
+    int window;
+    int dataAt;
+    int dataLength;
+    private int place;
+    private int size;
     private int protocol;
     private final Wire wire;
     private final Link link;
@@ -1019,52 +1030,24 @@ public final class WebHost {
       putTwo(link.out, PAYLOAD_AT + 2, ~added(link.out, PAYLOAD_AT, size, 0));
       link.send(sender, ICMP, size);
     }
-  }
 
-  /** A TCP segment that came. */
-  private static final class Segment {
-    private static final int MSS_MOST = 1460;
-    private static final int MSS_LEAST = 64;
-    private static final int MSS_UNTOLD = 536;
-
-    byte[] bytes;
-    int from;
-    int fromPort;
-    int toPort;
-    int seq;
-    int ack;
-    int flags;
-    int window;
-    int dataAt;
-    int dataLength;
-    private int place;
-
-    Segment() {
-      bytes = new byte[0];
-    }
-
-    boolean read(Intake in, int ourIp) {
-      if (in.size < 20) {
+    /** Reads the body as a TCP segment; false if it is none. */
+    boolean readSegment() {
+      int header = (one(body, place + 12) >> 4) * 4;
+      if (size < 20 || header < 20 || header > size) {
         return false;
       }
-      bytes = in.body;
-      place = in.place;
-      from = in.sender;
-      int header = (one(bytes, place + 12) >> 4) * 4;
-      if (header < 20 || header > in.size) {
+      if (added(body, place, size, pseudoSum(sender, link.ip, size)) != 0xFFFF) {
         return false;
       }
-      if (added(bytes, place, in.size, pseudoSum(from, ourIp, in.size)) != 0xFFFF) {
-        return false;
-      }
-      fromPort = two(bytes, place);
-      toPort = two(bytes, place + 2);
-      seq = four(bytes, place + 4);
-      ack = four(bytes, place + 8);
-      flags = one(bytes, place + 13);
-      window = two(bytes, place + 14);
+      fromPort = two(body, place);
+      toPort = two(body, place + 2);
+      seq = four(body, place + 4);
+      ack = four(body, place + 8);
+      flags = one(body, place + 13);
+      window = two(body, place + 14);
       dataAt = place + header;
-      dataLength = in.size - header;
+      dataLength = size - header;
       return true;
     }
 
@@ -1072,7 +1055,7 @@ public final class WebHost {
       return (flags & flag) != 0;
     }
 
-    /** How many sequence numbers it takes. */
+    /** How many sequence numbers the segment takes. */
     int span() {
       return dataLength + (has(SYN) ? 1 : 0) + (has(FIN) ? 1 : 0);
     }
@@ -1080,18 +1063,18 @@ public final class WebHost {
     int mss() {
       int i = place + 20;
       while (i < dataAt) {
-        int kind = one(bytes, i);
+        int kind = one(body, i);
         if (kind == 0) {
           break;
         }
         int step = 1;
         if (kind != 1) {
-          step = i + 1 < dataAt ? one(bytes, i + 1) : 0;
+          step = i + 1 < dataAt ? one(body, i + 1) : 0;
           if (step < 2 || i + step > dataAt) {
             break;
           }
           if (kind == 2 && step == 4) {
-            return Math.max(MSS_LEAST, Math.min(MSS_MOST, two(bytes, i + 2)));
+            return Math.max(MSS_LEAST, Math.min(MSS_MOST, two(body, i + 2)));
           }
         }
         i += step;
@@ -1144,7 +1127,7 @@ public final class WebHost {
       return seq - next >= 0 && seq - (next + window()) < 0;
     }
 
-    boolean accepts(Segment segment) {
+    boolean accepts(Intake segment) {
       int span = segment.span();
       if (window() == 0) {
         return span == 0 && segment.seq == next;
@@ -1153,7 +1136,7 @@ public final class WebHost {
     }
 
     /** Takes a segment's data and FIN; whether all up to the FIN was there then. */
-    boolean take(Segment segment) {
+    boolean take(Intake segment) {
       int fin = segment.seq + segment.dataLength;
       if (segment.has(FIN) && !finKept && isInWindow(fin)) {
         finKept = true;
@@ -1172,7 +1155,7 @@ public final class WebHost {
       return true;
     }
 
-    private void putAhead(Segment segment) {
+    private void putAhead(Intake segment) {
       int room = window();
       for (int i = 0; i < segment.dataLength; i++) {
         int seq = segment.seq + i;
@@ -1181,7 +1164,7 @@ public final class WebHost {
         int bit = 1 << (k & 31);
         if (offset >= 0 && offset < room && (ahead[k >> 5] & bit) == 0) {
           ahead[k >> 5] |= bit;
-          row[k] = (byte) one(segment.bytes, segment.dataAt + i);
+          row[k] = (byte) one(segment.body, segment.dataAt + i);
         }
       }
     }
@@ -1352,9 +1335,9 @@ public final class WebHost {
       pace = new Pace();
     }
 
-    void begin(Segment segment, int iss) {
+    void begin(Intake segment, int iss) {
       state = SYN_RECEIVED;
-      ip = segment.from;
+      ip = segment.sender;
       port = segment.fromPort;
       this.iss = iss;
       una = iss;
@@ -1460,11 +1443,11 @@ public final class WebHost {
       }
     }
 
-    boolean isWindowNewer(Segment segment) {
+    boolean isWindowNewer(Intake segment) {
       return wl1 - segment.seq < 0 || wl1 == segment.seq && segment.ack - wl2 >= 0;
     }
 
-    void takeWindow(Segment segment) {
+    void takeWindow(Intake segment) {
       window = segment.window;
       wl1 = segment.seq;
       wl2 = segment.ack;
@@ -1558,14 +1541,14 @@ public final class WebHost {
     private final Wire wire;
     private final Link link;
     private final Store store;
-    private final Segment segment;
+    private final Intake segment;
     private final Connection[] places;
 
-    Tcp(Wire wire, Link link, Store store) {
+    Tcp(Wire wire, Link link, Store store, Intake segment) {
       this.wire = wire;
       this.link = link;
       this.store = store;
-      segment = new Segment();
+      this.segment = segment;
       places = new Connection[PLACES];
     }
 
@@ -1617,11 +1600,8 @@ public final class WebHost {
       return null;
     }
 
-    /** Takes a segment; its connection, if requests are to be looked at and things may be sent then. */
-    Connection take(Intake in) {
-      if (!segment.read(in, link.ip)) {
-        return null;
-      }
+    /** Takes the segment; its connection, if requests are to be looked at and things may be sent then. */
+    Connection take() {
       Connection c = connectionOfSegment();
       if (c == null) {
         takeWithoutConnection();
@@ -1649,7 +1629,7 @@ public final class WebHost {
     private Connection connectionOfSegment() {
       for (int i = 0; i < PLACES && segment.toPort == WEB_PORT; i++) {
         Connection c = connectionAt(i);
-        if (c != null && c.ip == segment.from && c.port == segment.fromPort) {
+        if (c != null && c.ip == segment.sender && c.port == segment.fromPort) {
           return c;
         }
       }
@@ -1904,8 +1884,8 @@ public final class WebHost {
       } else {
         fillHeader(segment.toPort, segment.fromPort, 0, segment.seq + segment.span(), RST | ACK, 0);
       }
-      sumUp(segment.from, 20);
-      link.send(segment.from, TCP, 20);
+      sumUp(segment.sender, 20);
+      link.send(segment.sender, TCP, 20);
     }
   }
 

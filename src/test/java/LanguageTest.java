@@ -24,7 +24,7 @@ public final class LanguageTest {
     none(code, 1, "(?m)^  (?!(public|private|\\}| |\n|$))");
     none(code, 1, "(?m)^(  |    )(?! |public)[\\w\\[\\] ]+ (" + FACE + ")\\([^;]*\\) \\{$");
     Kit.due("1: public members", count(code, "(?m)^  public "), 19);
-    Kit.due("11: classes", count(code, "\\bclass ") <= 13, true);
+    Kit.due("11: classes", count(code, "\\bclass ") <= 12, true);
     methods(List.of(code.split("\n")));
     Kit.finish();
   }
