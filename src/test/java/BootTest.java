@@ -11,13 +11,6 @@ public final class BootTest {
     Kit.finish();
   }
 
-  private static int boot(byte[] image) {
-    Kit kit = new Kit();
-    kit.put(image);
-    kit.host.install();
-    return kit.host.boot(Kit.IP, 24, Kit.GATE, 0x0200, 1);
-  }
-
   private static void numbers() {
     Kit kit = new Kit();
     WebHost x = kit.host;
@@ -48,40 +41,31 @@ public final class BootTest {
 
   private static void images() {
     byte[] good = Kit.image("/a", "aa", "/b", "");
-    Kit.due("5: right", boot(good), 2);
+    Kit.due("5: right", Kit.bootOf(good), 2);
     for (int i = 0; i < 8 + 2 * 64 + 4; i++) {
       byte[] bad = good.clone();
       bad[i] ^= 1;
-      Kit.due("5: byte " + i + " is another one", boot(bad), -3);
+      Kit.due("5: byte " + i + " is another one", Kit.bootOf(bad), -3);
     }
-    Kit.due("5: too short for its check", boot(Arrays.copyOf(Kit.image(), 11)), -3);
-    Kit.due("5: empty", boot(new byte[0]), -3);
-    Kit.due("5: no files", boot(Kit.image()), 0);
-    Kit.due("5: a name twice", boot(Kit.image("/a", "a", "/b", "b", "/a", "c")), -3);
-    Kit.due("5: a name without /", boot(Kit.image("a", "a")), -3);
-    Kit.due("5: a blank in a name", boot(Kit.image("/a b", "a")), -3);
-    Kit.due("5: a blank right behind /", boot(Kit.image("/ ", "a")), -3);
-    Kit.due("5: 127 in a name", boot(Kit.image("/a\u007f", "a")), -3);
-    Kit.due("5: 126 and 33 in a name", boot(Kit.image("/a~!", "a")), 1);
-    Kit.due("5: a byte behind a name", boot(Kit.image("/a\0b", "a")), -3);
-    Kit.due("5: a name of 47", boot(Kit.image(LONG.substring(0, 47), "a")), 1);
-    Kit.due("5: a name of 48", boot(Kit.image(LONG, "a")), -3);
-    Kit.due("5: a name of / alone", boot(Kit.image("/", "a")), 1);
-    Kit.due("5: no name", boot(Kit.image("", "a")), -3);
-    Kit.due("5: two bytes not 0", boot(Kit.sealed(Kit.join(Kit.latin("STOR"), Kit.two(0), Kit.two(1)))), -3);
-    Kit.due("5: a faulty sign", boot(Kit.sealed(Kit.join(Kit.latin("STOP"), Kit.four(0)))), -3);
-    Kit.due("5: 64 files", boot(many(64)), 64);
-    Kit.due("5: 65 files", boot(many(65)), -3);
+    Kit.due("5: too short for its check", Kit.bootOf(Arrays.copyOf(Kit.image(), 11)), -3);
+    Kit.due("5: empty", Kit.bootOf(new byte[0]), -3);
+    Kit.due("5: no files", Kit.bootOf(Kit.image()), 0);
+    Kit.due("5: a name twice", Kit.bootOf(Kit.image("/a", "a", "/b", "b", "/a", "c")), -3);
+    Kit.due("5: a name without /", Kit.bootOf(Kit.image("a", "a")), -3);
+    Kit.due("5: a blank in a name", Kit.bootOf(Kit.image("/a b", "a")), -3);
+    Kit.due("5: a blank right behind /", Kit.bootOf(Kit.image("/ ", "a")), -3);
+    Kit.due("5: 127 in a name", Kit.bootOf(Kit.image("/a\u007f", "a")), -3);
+    Kit.due("5: 126 and 33 in a name", Kit.bootOf(Kit.image("/a~!", "a")), 1);
+    Kit.due("5: a byte behind a name", Kit.bootOf(Kit.image("/a\0b", "a")), -3);
+    Kit.due("5: a name of 47", Kit.bootOf(Kit.image(LONG.substring(0, 47), "a")), 1);
+    Kit.due("5: a name of 48", Kit.bootOf(Kit.image(LONG, "a")), -3);
+    Kit.due("5: a name of / alone", Kit.bootOf(Kit.image("/", "a")), 1);
+    Kit.due("5: no name", Kit.bootOf(Kit.image("", "a")), -3);
+    Kit.due("5: two bytes not 0", Kit.bootOf(Kit.sealed(Kit.join(Kit.latin("STOR"), Kit.two(0), Kit.two(1)))), -3);
+    Kit.due("5: a faulty sign", Kit.bootOf(Kit.sealed(Kit.join(Kit.latin("STOP"), Kit.four(0)))), -3);
+    Kit.due("5: 64 files", Kit.bootOf(Kit.imageOf(64)), 64);
+    Kit.due("5: 65 files", Kit.bootOf(Kit.imageOf(65)), -3);
     places();
-  }
-
-  private static byte[] many(int n) {
-    Object[] files = new Object[2 * n];
-    for (int i = 0; i < n; i++) {
-      files[2 * i] = "/" + i;
-      files[2 * i + 1] = "";
-    }
-    return Kit.image(files);
   }
 
   private static byte[] entry(int place, int length, int last) {
@@ -91,14 +75,14 @@ public final class BootTest {
   }
 
   private static void places() {
-    Kit.due("5: the whole image as a file", boot(entry(0, 76, 0)), 1);
-    Kit.due("5: nothing at its end", boot(entry(76, 0, 0)), 1);
-    Kit.due("5: beyond its end", boot(entry(76, 1, 0)), -3);
-    Kit.due("5: nothing beyond its end", boot(entry(77, 0, 0)), -3);
-    Kit.due("5: place without sign", boot(entry(-1, 1, 0)), -3);
-    Kit.due("5: length without sign", boot(entry(10, -5, 0)), -3);
-    Kit.due("5: sum of both beyond 32 bits", boot(entry(-10, 20, 0)), -3);
-    Kit.due("5: last bytes not 0", boot(entry(0, 0, 1)), -3);
+    Kit.due("5: the whole image as a file", Kit.bootOf(entry(0, 76, 0)), 1);
+    Kit.due("5: nothing at its end", Kit.bootOf(entry(76, 0, 0)), 1);
+    Kit.due("5: beyond its end", Kit.bootOf(entry(76, 1, 0)), -3);
+    Kit.due("5: nothing beyond its end", Kit.bootOf(entry(77, 0, 0)), -3);
+    Kit.due("5: place without sign", Kit.bootOf(entry(-1, 1, 0)), -3);
+    Kit.due("5: length without sign", Kit.bootOf(entry(10, -5, 0)), -3);
+    Kit.due("5: sum of both beyond 32 bits", Kit.bootOf(entry(-10, 20, 0)), -3);
+    Kit.due("5: last bytes not 0", Kit.bootOf(entry(0, 0, 1)), -3);
   }
 
   private static void again() {

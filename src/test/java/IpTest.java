@@ -15,14 +15,8 @@ public final class IpTest {
     Kit.finish();
   }
 
-  private static Kit withPeer() {
-    Kit kit = Kit.booted();
-    kit.arrive(Kit.tell(P), 0);
-    return kit;
-  }
-
   private static void echoes() {
-    Kit kit = withPeer();
+    Kit kit = Kit.knowing(P);
     byte[] message = Kit.echo(0x1234, "hello");
     Kit.due("4: an echo", kit.arrive(Kit.packet(P, 1, message), 1), 1);
     byte[] frame = kit.frame(0);
@@ -60,7 +54,7 @@ public final class IpTest {
   }
 
   private static void headers() {
-    Kit kit = withPeer();
+    Kit kit = Kit.knowing(P);
     Kit.due("4: as it is", changed(kit, 15, 0), 1);
     Kit.due("4: service does not matter", changed(kit, 15, 0x12), 1);
     Kit.due("4: version 5", changed(kit, 14, 0x55), 0);
@@ -98,7 +92,7 @@ public final class IpTest {
   }
 
   private static void fragments() {
-    Kit kit = withPeer();
+    Kit kit = Kit.knowing(P);
     byte[] whole = Kit.echo(7, "abcdefghijklmnopqrstuvwxyz");
     Kit.due("4: the last first", kit.arrive(piece(5, whole, 24, 34, false), 1), 0);
     Kit.due("4: the first", kit.arrive(piece(5, whole, 0, 8, true), 2), 0);
@@ -130,7 +124,7 @@ public final class IpTest {
   }
 
   private static void contradictions() {
-    Kit kit = withPeer();
+    Kit kit = Kit.knowing(P);
     byte[] whole = Kit.echo(7, "abcdefghijklmnop");
     kit.arrive(piece(1, whole, 8, 24, false), 1);
     Kit.due("4: another end drops all", kit.arrive(piece(1, whole, 8, 16, false), 1), 0);
@@ -152,7 +146,7 @@ public final class IpTest {
   }
 
   private static void inTheMaking() {
-    Kit kit = withPeer();
+    Kit kit = Kit.knowing(P);
     byte[] whole = Kit.echo(7, "abcdefgh");
     for (int i = 0; i < 4; i++) {
       kit.arrive(piece(i, whole, 0, 8, true), 10 + i);
@@ -169,7 +163,7 @@ public final class IpTest {
   }
 
   private static void lateFragments() {
-    Kit kit = withPeer();
+    Kit kit = Kit.knowing(P);
     byte[] whole = Kit.echo(7, "abcdefghijklmnop");
     kit.arrive(piece(1, whole, 0, 8, true), 100);
     kit.arrive(piece(1, whole, 8, 16, true), 15000);
@@ -191,7 +185,7 @@ public final class IpTest {
 
   /** Echoes that would be right by themselves, in fragments that are dropped. */
   private static void fragmentsAlone() {
-    Kit kit = withPeer();
+    Kit kit = Kit.knowing(P);
     byte[] twelve = Kit.echo(7, "abcd");
     byte[] sixteen = Kit.echo(7, "abcdefgh");
     Kit.due("4: 12 bytes with more to come", kit.arrive(Kit.packet(P, 1, 0x2000, 1, twelve), 1), 0);
@@ -207,7 +201,7 @@ public final class IpTest {
   }
 
   private static void sums() {
-    Kit kit = withPeer();
+    Kit kit = Kit.knowing(P);
     for (int i = 0; i < 40; i++) {
       kit.arrive(Kit.packet(P, 1, Kit.echo(0xFFF0 + i, "\u00ff".repeat(37 * i) + (char) (7 * i))), 1);
       Kit.due("4: the sum of " + i, Kit.faultOf(kit.frame(0)), "");
@@ -222,7 +216,7 @@ public final class IpTest {
   }
 
   private static void greatDatagrams() {
-    Kit kit = withPeer();
+    Kit kit = Kit.knowing(P);
     byte[] whole = Kit.echo(7, "x".repeat(1480 - 8));
     kit.arrive(piece(1, whole, 0, 800, true), 1);
     Kit.due("4: 1480 together", kit.arrive(piece(1, whole, 800, 1480, false), 2), 1);

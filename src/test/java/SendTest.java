@@ -4,6 +4,7 @@ public final class SendTest {
   private static final String GET = "GET /b HTTP/1.1\r\nHost: h\r\n\r\n";
   private static final String GET_CLOSE = "GET /b HTTP/1.1\r\nHost: h\r\nConnection: close\r\n\r\n";
   private static final String SMALL_CLOSE = "GET /s HTTP/1.1\r\nHost: h\r\nConnection: close\r\n\r\n";
+  private static final String BODY = Kit.letters(5000);
   /** 99 bytes of head, 5000 of body. */
   private static final int ANSWER = 5099;
 
@@ -28,16 +29,8 @@ public final class SendTest {
     Kit.finish();
   }
 
-  private static String body() {
-    StringBuilder text = new StringBuilder();
-    for (int i = 0; i < 5000; i++) {
-      text.append((char) ('A' + i % 23));
-    }
-    return text.toString();
-  }
-
   private static Kit kit() {
-    return Kit.booted(Kit.image("/b", body(), "/s", "small"));
+    return Kit.booted(Kit.image("/b", BODY, "/s", "small"));
   }
 
   private static Peer opened(int mss) {
@@ -53,8 +46,8 @@ public final class SendTest {
       Kit.due("6: its length", peer.data(3 - i).length(), 500);
       Kit.due("6: ACK alone", peer.flags(3 - i), 16);
     }
-    Kit.due("6: the body follows the head", peer.data(3).substring(99), body().substring(0, 401));
-    Kit.due("6: and goes on", peer.data(2), body().substring(401, 901));
+    Kit.due("6: the body follows the head", peer.data(3).substring(99), BODY.substring(0, 401));
+    Kit.due("6: and goes on", peer.data(2), BODY.substring(401, 901));
     Kit.due("14: AT", peer.look(3), first + 2000);
     Kit.due("14: MAX", peer.look(4), first + 2000);
     Kit.due("14: left", peer.look(12), ANSWER - 2000);
@@ -343,8 +336,8 @@ public final class SendTest {
     Peer peer = opened(1460);
     Kit.due("6: three of 1460", peer.send(10, GET), 3);
     Kit.due("10: its length", peer.host.length(0), 1514);
-    Kit.due("6: the last", peer.data(0), body().substring(2 * 1460 - 99, 3 * 1460 - 99));
-    Kit.due("6: the first", peer.data(2).substring(99), body().substring(0, 1460 - 99));
+    Kit.due("6: the last", peer.data(0), BODY.substring(2 * 1460 - 99, 3 * 1460 - 99));
+    Kit.due("6: the first", peer.data(2).substring(99), BODY.substring(0, 1460 - 99));
     byte[] name = java.util.Arrays.copyOf(Kit.latin("/first"), 48);
     byte[] head = Kit.join(Kit.latin("STOR"), Kit.two(1), Kit.two(0));
     byte[] check = Kit.four(Kit.check(Kit.latin("STOR")));

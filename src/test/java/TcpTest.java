@@ -23,14 +23,8 @@ public final class TcpTest {
     Kit.finish();
   }
 
-  private static Kit withPeer() {
-    Kit kit = Kit.booted();
-    kit.arrive(Kit.tell(P), 0);
-    return kit;
-  }
-
   private static void begins() {
-    Kit kit = withPeer();
+    Kit kit = Kit.knowing(P);
     Peer peer = new Peer(kit, P, 5000);
     peer.window = 7000;
     Kit.due("5: SYN ACK", peer.syn(40, 0xFFFFFFFF, Kit.hex("02040400")), 1);
@@ -66,7 +60,7 @@ public final class TcpTest {
   }
 
   private static void mss(String options, int mss, int cwnd) {
-    Kit kit = withPeer();
+    Kit kit = Kit.knowing(P);
     new Peer(kit, P, 5000).syn(1, 100, Kit.hex(options));
     Kit.due("5: MSS of " + options, kit.host.look(0, 10), mss);
     Kit.due("5: CWND of " + options, kit.host.look(0, 7), cwnd);
@@ -95,7 +89,7 @@ public final class TcpTest {
     mss("01020403", 536, 2144);
     mss("0a08010101010101", 536, 2144);
     mss("04020101020403e8", 1000, 4000);
-    Kit kit = withPeer();
+    Kit kit = Kit.knowing(P);
     byte[] data = Kit.hex("020403e8");
     kit.arrive(Kit.packet(P, 6, Kit.tcp(P, fields(80, 1, 0, Peer.SYN), Kit.hex("01010101"), data)), 1);
     Kit.due("5: data are no options", kit.host.look(0, 10), 536);
@@ -113,7 +107,7 @@ public final class TcpTest {
   }
 
   private static void withoutConnection() {
-    Kit kit = withPeer();
+    Kit kit = Kit.knowing(P);
     Kit.due("5: RST is dropped", alone(kit, fields(80, 1, 2, Peer.RST), ""), 0);
     Kit.due("5: RST ACK too", alone(kit, fields(81, 1, 2, Peer.RST | Peer.ACK), ""), 0);
     Kit.due("5: FIN too", alone(kit, fields(80, 1, 2, Peer.FIN), ""), 0);
@@ -138,7 +132,7 @@ public final class TcpTest {
   }
 
   private static void faulty() {
-    Kit kit = withPeer();
+    Kit kit = Kit.knowing(P);
     byte[] segment = Kit.tcp(P, fields(80, 1, 0, Peer.SYN), new byte[0], new byte[0]);
     byte[] bad = segment.clone();
     bad[15] ^= 1;
@@ -163,7 +157,7 @@ public final class TcpTest {
   }
 
   private static void places() {
-    Kit kit = withPeer();
+    Kit kit = Kit.knowing(P);
     for (int i = 0; i < 16; i++) {
       Kit.due("5: begins", new Peer(kit, P, 5000 + i).syn(1, 9, new byte[0]), 1);
     }
@@ -181,7 +175,7 @@ public final class TcpTest {
   }
 
   private static void synReceived() {
-    Kit kit = withPeer();
+    Kit kit = Kit.knowing(P);
     Peer peer = new Peer(kit, P, 5000);
     peer.syn(1, 1000, new byte[0]);
     Kit.due("10: SYN again is acknowledged", peer.raw(2, Peer.SYN, 1000, 0, ""), 1);
@@ -219,7 +213,7 @@ public final class TcpTest {
   }
 
   private static void opensWithAll() {
-    Kit kit = withPeer();
+    Kit kit = Kit.knowing(P);
     Peer peer = new Peer(kit, P, 5000);
     peer.syn(1, 1000, new byte[0]);
     String head = "GET /a.txt HTTP/1.1\r\nHost: h\r\n\r\n";
@@ -230,7 +224,7 @@ public final class TcpTest {
   }
 
   private static void otherSideEnds() {
-    Kit kit = withPeer();
+    Kit kit = Kit.knowing(P);
     Peer peer = new Peer(kit, P, 5000).open(1);
     Kit.due("5: FIN", peer.fin(10), 1);
     Kit.due("13: LAST ACK", kit.host.state(0), 8);
@@ -257,7 +251,7 @@ public final class TcpTest {
   }
 
   private static void thisSideEnds() {
-    Kit kit = withPeer();
+    Kit kit = Kit.knowing(P);
     Peer peer = new Peer(kit, P, 5000).open(1);
     Kit.due("8: answered", peer.send(10, CLOSE), 1);
     Kit.due("6: PSH FIN ACK together", peer.flags(0), 25);
@@ -278,7 +272,7 @@ public final class TcpTest {
   }
 
   private static void bothEnd() {
-    Kit kit = withPeer();
+    Kit kit = Kit.knowing(P);
     Peer peer = new Peer(kit, P, 5000).open(1);
     peer.send(10, CLOSE);
     int n = peer.data(0).length();
@@ -305,7 +299,7 @@ public final class TcpTest {
   }
 
   private static void timeWait() {
-    Kit kit = withPeer();
+    Kit kit = Kit.knowing(P);
     Peer peer = new Peer(kit, P, 5000).open(1);
     peer.send(10, CLOSE);
     peer.ackMore(11, peer.data(0).length() + 1);
@@ -334,7 +328,7 @@ public final class TcpTest {
   }
 
   private static void acceptable() {
-    Kit kit = withPeer();
+    Kit kit = Kit.knowing(P);
     Peer peer = new Peer(kit, P, 5000).open(1);
     int next = peer.seq;
     Kit.due("5: before NEXT", peer.raw(2, Peer.ACK, next - 1, peer.ack, ""), 1);
@@ -393,7 +387,7 @@ public final class TcpTest {
   }
 
   private static void ordering() {
-    Kit kit = withPeer();
+    Kit kit = Kit.knowing(P);
     Peer peer = new Peer(kit, P, 5000).open(1);
     String head = "GET /a.txt HTTP/1.1\r\nHost: h\r\n\r\n";
     int next = peer.seq;
@@ -412,7 +406,7 @@ public final class TcpTest {
 
   /** Sequence numbers of both sides pass 2^32. */
   private static void wrapping() {
-    Kit kit = withPeer();
+    Kit kit = Kit.knowing(P);
     Peer peer = new Peer(kit, P, 5000);
     peer.syn(1, -10, new byte[0]);
     peer.raw(2, Peer.ACK, peer.seq, peer.ack, "");
@@ -425,7 +419,7 @@ public final class TcpTest {
   }
 
   private static void finOutOfOrder() {
-    Kit kit = withPeer();
+    Kit kit = Kit.knowing(P);
     Peer peer = new Peer(kit, P, 5000).open(1);
     String head = "GET /a.txt HTTP/1.1\r\nHost: h\r\n\r\n";
     int next = peer.seq;
@@ -455,7 +449,7 @@ public final class TcpTest {
   }
 
   private static void acknowledgements() {
-    Kit kit = withPeer();
+    Kit kit = Kit.knowing(P);
     Peer peer = new Peer(kit, P, 5000).open(1);
     Kit.due("5: behind MAX", peer.raw(2, Peer.ACK, peer.seq, peer.ack + 1, "abc"), 1);
     Kit.due("5: an ACK", peer.flags(0), 16);
@@ -477,7 +471,7 @@ public final class TcpTest {
   }
 
   private static void idle() {
-    Kit kit = withPeer();
+    Kit kit = Kit.knowing(P);
     Peer peer = new Peer(kit, P, 5000).open(100);
     Kit.due("6: quiet", kit.host.pass(30099), 0);
     Kit.due("6: closing down", kit.host.pass(30100), 1);

@@ -58,6 +58,21 @@ final class Kit {
     return booted(image("/index.html", "<h1>hi</h1>\n", "/a.txt", "some text"));
   }
 
+  /** A booted host that has a number in its cache. */
+  static Kit knowing(int ip) {
+    Kit kit = booted();
+    kit.arrive(tell(ip), 0);
+    return kit;
+  }
+
+  /** What a new host answers when it boots an image. */
+  static int bootOf(byte[] image) {
+    Kit kit = new Kit();
+    kit.put(image);
+    kit.host.install();
+    return kit.host.boot(IP, 24, GATE, 0x0200, 1);
+  }
+
   void put(byte[] bytes) {
     for (int i = 0; i < bytes.length; i += 20) {
       byte[] part = Arrays.copyOf(Arrays.copyOfRange(bytes, i, Math.min(i + 20, bytes.length)), 20);
@@ -74,7 +89,35 @@ final class Kit {
       String fault = faultOf(frame(i));
       due("19: a frame sent at " + time + ": " + fault, fault.length(), 0);
     }
+    due("19: strays", host.strays(), 0);
     return n;
+  }
+
+  /** All that can be seen of the host without changing it, so that a call can be shown to change nothing. */
+  String seen() {
+    StringBuilder text = new StringBuilder("now " + host.now() + " sent " + host.sent());
+    text.append(" waiting ").append(host.waiting()).append(" strays ").append(host.strays());
+    for (int i = 0; i < 8; i++) {
+      text.append(" counted ").append(host.counted(i));
+    }
+    for (int i = 0; i < 32 && host.length(i) >= 0; i++) {
+      text.append('\n').append(host.time(i)).append(' ').append(hex(frame(i)));
+    }
+    for (int place = 0; place < 16; place++) {
+      text.append('\n').append(host.state(place));
+      for (int what = 0; what < 15; what++) {
+        text.append(' ').append(host.look(place, what));
+      }
+    }
+    for (int last = 0; last < 256; last++) {
+      text.append(host.cached(IP & 0xFFFFFF00 | last) ? "c" : "-");
+    }
+    return text.toString();
+  }
+
+  /** Whether the tray has just so many bytes; it is left as it was. */
+  boolean trayHas(int n) {
+    return host.end(n + 1) == -1 && host.end(n) == n;
   }
 
   /** The bytes of a frame sent, i counted back. */
@@ -132,6 +175,15 @@ final class Kit {
     return new String(bytes, StandardCharsets.ISO_8859_1);
   }
 
+  /** So many letters, in an order that shows where a part of them comes from. */
+  static String letters(int n) {
+    StringBuilder text = new StringBuilder();
+    for (int i = 0; i < n; i++) {
+      text.append((char) ('A' + i % 23));
+    }
+    return text.toString();
+  }
+
   static byte[] join(byte[]... parts) {
     ByteArrayOutputStream all = new ByteArrayOutputStream();
     for (byte[] part : parts) {
@@ -172,6 +224,16 @@ final class Kit {
       bodies = join(bodies, body);
     }
     return join(sealed(table), bodies);
+  }
+
+  /** An image of so many empty files. */
+  static byte[] imageOf(int n) {
+    Object[] files = new Object[2 * n];
+    for (int i = 0; i < n; i++) {
+      files[2 * i] = "/" + i;
+      files[2 * i + 1] = "";
+    }
+    return image(files);
   }
 
   /** A table with its check behind it. */
