@@ -481,6 +481,14 @@ public final class SendEdges {
     peer.ackMore(20, 500);
     peer.host.pass(1020);
     Kit.due("6: when the timer runs out", peer.look(8), 1250);
+    Kit.due("14: AT went back", peer.look(3) - peer.look(2), 500);
+    for (int i = 0; i < 3; i++) {
+      peer.ackMore(1030, 0);
+    }
+    Kit.due("6: by MAX, not by AT", peer.look(8), 1250);
+    Kit.due("6: CWND", peer.look(7), 2750);
+    peer.host.pass(3020);
+    Kit.due("6: when it runs out again", peer.look(8), 1250);
   }
 
   private static void duplicateCwndAtMost65535() {
