@@ -1,10 +1,13 @@
+import java.lang.reflect.Field;
+import java.lang.reflect.Method;
+import java.lang.reflect.Modifier;
 import java.nio.file.Files;
 import java.nio.file.Path;
 import java.util.List;
 import java.util.regex.Matcher;
 import java.util.regex.Pattern;
 
-/** A look at the program's text for what the rules of LANGUAGE.md forbid; the rest of them is for the eye. */
+/** A look at the program's text and classes for what the rules of LANGUAGE.md forbid; the rest is for the eye. */
 public final class LanguageTest {
   private static final String FACE = "feed|end|install|boot|arrive|pass|now|sent|length|at|time|state|look|cached|"
       + "waiting|counted|damage|strays";
@@ -26,7 +29,42 @@ public final class LanguageTest {
     Kit.due("1: public members", count(code, "(?m)^  public "), 19);
     Kit.due("11: classes", count(code, "\\bclass ") <= 12, true);
     methods(List.of(code.split("\n")));
+    face();
+    fields(WebHost.class);
+    for (Class<?> inside : WebHost.class.getDeclaredClasses()) {
+      int kind = inside.getModifiers();
+      boolean isHidden = !Modifier.isPublic(kind) && !Modifier.isProtected(kind);
+      Kit.due("2: " + inside.getName() + " is static and not public", Modifier.isStatic(kind) && isHidden, true);
+      fields(inside);
+    }
     Kit.finish();
+  }
+
+  /** Every method of the document's face is public, all others are private. */
+  private static void face() {
+    int found = 0;
+    for (Method method : WebHost.class.getDeclaredMethods()) {
+      boolean isOfFace = method.getName().matches(FACE);
+      found += isOfFace ? 1 : 0;
+      int kind = method.getModifiers();
+      Kit.due("1: " + method.getName(), isOfFace ? Modifier.isPublic(kind) : Modifier.isPrivate(kind), true);
+    }
+    Kit.due("1: methods of the face", found, FACE.split("[|]").length);
+    Kit.due("1: public and final", Modifier.isFinal(WebHost.class.getModifiers()), true);
+    Kit.due("1: constructors", WebHost.class.getDeclaredConstructors().length, 1);
+  }
+
+  /** No static state, and some twenty fields beside the constants. */
+  private static void fields(Class<?> type) {
+    int own = 0;
+    for (Field field : type.getDeclaredFields()) {
+      if (Modifier.isStatic(field.getModifiers())) {
+        Kit.due("5: " + type.getName() + "." + field.getName(), Modifier.isFinal(field.getModifiers()), true);
+      } else {
+        own++;
+      }
+    }
+    Kit.due("11: fields of " + type.getName() + ", " + own, own <= 20, true);
   }
 
   private static void none(String code, int rule, String pattern) {
